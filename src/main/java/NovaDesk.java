@@ -763,7 +763,8 @@ public final class NovaDesk {
 
     /**
      * The statements with the bits that make each of them. The special names of device 77 stand
-     * before the general ones that make the same words, so that the first one found is told.
+     * before the general ones that make the same words, so that the first one found is told. The
+     * first two make no word: no bits of a word that are looked at are ever 1 there.
      */
     private enum Statement {
         LOC(".LOC", LOCATION, 1, 0),

@@ -128,7 +128,8 @@ final class AssemblerTest {
 
     private static void addresses() {
         makes("JMP 377\nJSR 0\nISZ @12\nDSZ 1,0", 0xFF, 0x800, 0x1000 | 0x400 | 10, 0x1801);
-        makes("LDA 0,177\nSTA 3,@177,1\nLDA 1,177600,2\nSTA 2,@177777,3", 0x207F, 0x5800 | 0x57F, 0x2A80, 0x5000 | 0x7FF);
+        makes("LDA 0,177\nSTA 3,@177,1\nLDA 1,177600,2\nSTA 2,@177777,3",
+                0x207F, 0x5800 | 0x57F, 0x2A80, 0x5000 | 0x7FF);
         makes("LDA 0,377,0\nLDA 0,0,1\nLDA 0,-1,1", 0x20FF, 0x2100, 0x21FF);
         NovaDesk x = new NovaDesk();
         Check.same("near", Desk.assemble(x, ".LOC 1000\nJMP 1177\nJMP .\nJMP .-200\nLDA 2,@.+177\n"

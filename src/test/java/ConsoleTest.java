@@ -98,6 +98,10 @@ final class ConsoleTest {
         Check.same("label after reset", Desk.label(x, "A"), -1);
         Check.same("memory after reset", x.word(101), 0x8000 | 101);
         isAsAtFirst("reset", x);
+        Desk.step(x, 200, 0x607F);
+        Check.same("ION", x.register(7), 1);
+        x.reset();
+        isAsAtFirst("reset of ION", x);
         Desk.assemble(x, "?");
         Check.same("fault", x.fault(0), 1);
         x.reset();

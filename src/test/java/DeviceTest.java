@@ -187,6 +187,7 @@ final class DeviceTest {
             x.set(1, 99);
             Desk.step(x, 50, 0x6000 | 1 << 11 | 2 << 8 | 1 << 6 | device);
             Check.same("out to none", x.register(1), 99);
+            Check.same("goes on", x.register(5), 51);
             int[] due = {0, 1, 0, 1};
             for (int control = 0; control < 4; control++) {
                 Desk.step(x, 50, 0x6700 | control << 6 | device);
@@ -270,6 +271,7 @@ final class DeviceTest {
         for (int what = 1; what <= 6; what++) {
             Desk.step(x, 50, 0x607F | what << 8);
             Check.same("control 1 of " + what, x.register(7), 1);
+            Check.same("goes on behind " + what, x.register(5), 51);
             Desk.step(x, 50, 0x60BF | what << 8);
             Check.same("control 2 of " + what, x.register(7), 0);
         }

@@ -74,6 +74,13 @@ final class RunTest {
             Check.same("STA " + a, x.word(70 + a), 40000 + a);
             Check.same("STA goes on", x.register(5), 501);
         }
+        x.put(0, 123);
+        Desk.step(x, 500, 0x6000);
+        Check.same("the least instruction of a device is no STA", x.word(0), 123);
+        x.set(3, 800);
+        x.put(799, 900);
+        Desk.step(x, 500, 0x5FFF);
+        Check.same("the highest STA", x.word(900), 800);
     }
 
     private static void countingAddresses() {
