@@ -1,11 +1,20 @@
 /** What tests do with a NovaDesk by several calls. */
 final class Desk {
+    /** An instruction that does nothing but let the next one come: JMP to the word behind it. */
+    static final int NEXT = 0x0101;
+
     private Desk() {
     }
 
     /** Puts this text in place of the one that is there. */
     static void type(NovaDesk x, String text) {
         x.end(0);
+        feed(x, text);
+        x.end(text.length());
+    }
+
+    /** Feeds this text, with characters 0 behind it up to a multiple of twenty. */
+    static void feed(NovaDesk x, String text) {
         int[] n = new int[5];
         for (int start = 0; start < text.length(); start += 20) {
             for (int i = 0; i < 5; i++) {
@@ -13,7 +22,6 @@ final class Desk {
             }
             x.feed(n[0], n[1], n[2], n[3], n[4]);
         }
-        x.end(text.length());
     }
 
     static int assemble(NovaDesk x, String text) {
@@ -42,13 +50,23 @@ final class Desk {
         return told.toString();
     }
 
-    /** A new object with these lines assembled and the PC where the first one goes. */
+    /** A new object with these lines assembled and the PC at 0. */
     static NovaDesk with(String... lines) {
         NovaDesk x = new NovaDesk();
         String text = String.join("\n", lines);
         int put = assemble(x, text);
         Check.same("fault of: " + text + " in line " + x.fault(1), x.fault(0), 0);
         Check.same("something was put by: " + text, put > 0 ? 1 : 0, 1);
+        return x;
+    }
+
+    /** A new object with these words from an address on, and the PC there. */
+    static NovaDesk at(int address, int... words) {
+        NovaDesk x = new NovaDesk();
+        for (int i = 0; i < words.length; i++) {
+            x.put(address + i, words[i]);
+        }
+        x.set(5, address);
         return x;
     }
 

@@ -1,21 +1,22 @@
-/** Promises 6, 7, 10, 11: device, tape, printed, tear; instructions of devices and interrupts. */
+/** The document's terms of devices: their instructions, those of the machine (63), and promise 6. */
 final class DeviceTest {
     public static void main(String[] args) {
-        wrongInputs();
-        tapeHolds();
-        reader();
-        printer();
-        paper();
-        clock();
-        transfers();
+        newDevices();
+        inputs();
+        outputs();
+        outputOfEightBits();
+        controls();
+        whatBeforeControl();
         tests();
+        testsDoNoControl();
         noDevice();
-        machineTransfers();
+        switches();
+        whoAsks();
         mask();
+        ioReset();
+        accumulatorsOfMachine();
         machineTests();
-        interrupts();
-        interruptWaits();
-        lostInterrupt();
+        machineControls();
         Check.finish();
     }
 
@@ -24,351 +25,369 @@ final class DeviceTest {
         Check.same(when + ": DONE of " + device, x.device(device, 2), done);
     }
 
-    private static void wrongInputs() {
+    /** An object whose device is DONE (the reader by a character 200). */
+    private static NovaDesk done(int device) {
         NovaDesk x = new NovaDesk();
-        Check.refuses("device(7, 0)", () -> x.device(7, 0));
-        Check.refuses("device(11, 0)", () -> x.device(11, 0));
-        Check.refuses("device(63, 0)", () -> x.device(63, 0));
-        Check.refuses("device(8, -1)", () -> x.device(8, -1));
-        Check.refuses("device(8, 3)", () -> x.device(8, 3));
-        Check.refuses("tape(-1)", () -> x.tape(-1));
-        Check.refuses("tape(256)", () -> x.tape(256));
-        Check.same("printed(-1)", x.printed(-1), -1);
-        Check.same("printed(MAX)", x.printed(Integer.MAX_VALUE), -1);
+        x.tape(200);
+        Desk.step(x, 100, 0x6040 | device);
+        Desk.idle(x, 20);
+        return x;
     }
 
-    private static void tapeHolds() {
+    private static NovaDesk busy(int device) {
         NovaDesk x = new NovaDesk();
-        for (int i = 1; i <= 500; i++) {
-            Check.same("tape " + i, x.tape(i & 255), i);
+        Desk.step(x, 100, 0x6040 | device);
+        return x;
+    }
+
+    private static void newDevices() {
+        Check.promise(6, "Of a device 8 .. 10: its word (what = 0; 0 of the clock), BUSY (1), DONE (2).");
+        for (int d = 8; d <= 10; d++) {
+            NovaDesk x = busy(d);
+            Check.same("word of " + d, x.device(d, 0), 0);
+            is(x, "started", d, 1, 0);
+            for (int other = 8; other <= 10; other++) {
+                if (other != d) {
+                    is(x, "when " + d + " is BUSY", other, 0, 0);
+                }
+            }
+            NovaDesk y = done(d);
+            is(y, "done", d, 0, 1);
+            Check.same("word of " + d + " that is DONE", y.device(d, 0), d == 8 ? 200 : 0);
+            for (int other = 8; other <= 10; other++) {
+                if (other != d) {
+                    is(y, "when " + d + " is DONE", other, 0, 0);
+                }
+            }
         }
-        Check.isFull("tape at 500", () -> x.tape(0));
-        Check.refuses("a wrong character on a full tape", () -> x.tape(256));
-        Desk.step(x, 0, 0x6048);
-        Desk.idle(x, 3);
-        Check.same("one is read", x.device(8, 0), 1);
-        Check.same("and makes room", x.tape(9), 500);
-        Check.isFull("tape at 500 again", () -> x.tape(0));
-    }
-
-    private static void reader() {
-        NovaDesk x = Desk.with("NIOS TTI", "JMP .", "JMP .");
-        x.run(3);
-        is(x, "three ticks", 8, 1, 0);
-        x.run(1);
-        is(x, "the fourth without a tape", 8, 1, 0);
-        x.run(10);
-        x.tape(255);
-        x.tape(7);
-        is(x, "tape alone", 8, 1, 0);
-        x.run(1);
-        is(x, "a further tick", 8, 0, 1);
-        Check.same("its word", x.device(8, 0), 255);
-        Check.same("one is left", x.tape(8), 2);
-        x.run(20);
-        is(x, "not BUSY: no ticks", 8, 0, 1);
-        Desk.step(x, 0, x.word(0));
-        is(x, "START", 8, 1, 0);
-        Check.same("the word stays by START", x.device(8, 0), 255);
-        x.run(2);
-        Desk.step(x, 0, x.word(0));
-        x.run(2);
-        is(x, "START counts anew", 8, 1, 0);
-        x.run(1);
-        is(x, "the fourth since", 8, 0, 1);
-        Check.same("its next word", x.device(8, 0), 7);
-        Desk.step(x, 2, 0x6088);
-        is(x, "CLEAR of DONE", 8, 0, 0);
-        Desk.step(x, 0, x.word(0));
-        Desk.step(x, 2, 0x6088);
-        Desk.idle(x, 10);
-        is(x, "CLEAR of BUSY", 8, 0, 0);
-        Check.same("nothing was read", x.tape(1), 2);
-    }
-
-    private static void printer() {
-        NovaDesk x = Desk.with("DOAS 0,TTO", "DOA 1,TTO", "JMP .");
-        x.set(0, 0xFF41);
-        x.set(1, 0x142);
-        x.run(1);
-        Check.same("eight bits", x.device(9, 0), 0x41);
-        x.run(2);
-        is(x, "three ticks", 9, 1, 0);
-        Check.same("not yet", x.printed(0), -1);
-        x.run(1);
-        is(x, "four", 9, 0, 1);
-        Check.same("the word that it has then", x.printed(0), 0x42);
-        Check.same("no more", x.printed(1), -1);
-        x.run(10);
-        Check.same("once only", x.tear(), 1);
-        Desk.step(x, 5, 0x60C9);
-        is(x, "control 3", 9, 0, 1);
-    }
-
-    private static void paper() {
-        NovaDesk x = Desk.with("DOAS 0,TTO", "INC 0,0", "SKPDN TTO", "JMP .-1", "JMP 0");
-        for (int i = 0; i < 2; i++) {
-            x.run(5000);
+        NovaDesk x = new NovaDesk();
+        x.set(0, 65535);
+        for (int what = 0; what <= 6; what++) {
+            Desk.step(x, 100, 0x6000 | what << 8 | 10);
+            Check.same("0 of the clock behind what " + what, x.device(10, 0), 0);
         }
-        // START, INC, SKPDN, JMP, SKPDN that skips, JMP: six for each.
-        int[] due = {0, 1, 2};
-        for (int i : due) {
-            Check.same("printed " + i, x.printed(i), i);
-        }
-        Check.same("printed 999", x.printed(999), 999 & 255);
-        Check.same("printed 1000", x.printed(1000), -1);
-        Check.same("more were printed", x.tear(), 10000 / 6 + (10000 % 6 >= 4 ? 1 : 0));
-        Check.same("nothing behind tear", x.printed(0), -1);
-        Check.same("none any more", x.tear(), 0);
-        x.run(6);
-        Check.same("prints anew", x.tear(), 1);
     }
 
-    private static void clock() {
-        NovaDesk x = Desk.with("NIOS RTC", "JMP .");
-        x.run(19);
-        is(x, "19 ticks", 10, 1, 0);
-        x.run(1);
-        is(x, "20 ticks", 10, 0, 1);
-        x.run(40);
-        is(x, "then none", 10, 0, 1);
-        Check.same("its word", x.device(10, 0), 0);
-        Desk.step(x, 5, 0x6000 | 2 << 8 | 10);
-        Check.same("its word stays 0", x.device(10, 0), 0);
-    }
-
-    private static void transfers() {
+    private static void inputs() {
+        Check.terms("What: 0 nothing; 1, 3, 5 A becomes: of the reader by 1 its word, otherwise 0;");
         for (int device = 8; device <= 10; device++) {
             for (int what = 0; what <= 6; what++) {
-                NovaDesk x = new NovaDesk();
-                x.tape(200);
-                Desk.step(x, 0, 0x6048);
-                Desk.idle(x, 3);
-                x.set(2, 0x1FE);
-                Desk.step(x, 50, 0x6000 | 2 << 11 | what << 8 | device);
-                String when = "what " + what + " of " + device;
-                int in = device == 8 && what == 1 ? 200 : 0;
-                Check.same(when + ": A", x.register(2), what % 2 == 1 ? in : 0x1FE);
-                Check.same(when + ": the reader's", x.device(8, 0), 200);
-                Check.same(when + ": the printer's", x.device(9, 0), device == 9 && what == 2 ? 0xFE : 0);
-                Check.same(when + ": goes on", x.register(5), 51);
+                for (int a = 0; a <= 3; a++) {
+                    NovaDesk x = done(8);
+                    for (int r = 0; r <= 3; r++) {
+                        x.set(r, 0x1FE);
+                    }
+                    Desk.step(x, 50, 0x6000 | a << 11 | what << 8 | device);
+                    String when = "what " + what + " of " + device + " with accumulator " + a;
+                    int in = device == 8 && what == 1 ? 200 : 0;
+                    for (int r = 0; r <= 3; r++) {
+                        Check.same(when + ": " + r, x.register(r), r == a && what % 2 == 1 ? in : 0x1FE);
+                    }
+                    Check.same(when + ": the reader's word stays", x.device(8, 0), 200);
+                    is(x, when + ": without control", 8, 0, 1);
+                    Check.same(when + ": the PC", x.register(5), 51);
+                }
             }
         }
     }
 
-    private static void tests() {
+    private static void outputs() {
+        Check.terms("2, 4, 6: the printer's word becomes the lowest 8 bits of A by 2.");
         for (int device = 8; device <= 10; device++) {
-            NovaDesk x = new NovaDesk();
-            x.tape(1);
-            skips(x, device, 0, 1, 0, 1);
-            Desk.step(x, 0, 0x6040 | device);
-            skips(x, device, 1, 0, 0, 1);
-            Desk.idle(x, 30);
-            skips(x, device, 0, 1, 1, 0);
+            for (int what = 0; what <= 6; what++) {
+                NovaDesk x = done(8);
+                x.set(2, 0x1FE);
+                Desk.step(x, 50, 0x6000 | 2 << 11 | what << 8 | device);
+                String when = "what " + what + " of " + device;
+                Check.same(when + ": the printer's word", x.device(9, 0), device == 9 && what == 2 ? 0xFE : 0);
+                Check.same(when + ": the reader's word", x.device(8, 0), 200);
+                Check.same(when + ": the clock's word", x.device(10, 0), 0);
+            }
         }
     }
 
-    private static void skips(NovaDesk x, int device, int... due) {
-        for (int control = 0; control < 4; control++) {
-            // The printer and the reader are DONE within four ticks: each test starts it anew.
-            boolean wasBusy = device != 63 && x.device(device, 1) == 1;
-            Desk.step(x, 50, 0x6700 | control << 6 | device);
-            Check.same("skip " + control + " of " + device, x.register(5) - 51, due[control]);
-            if (wasBusy) {
-                Desk.step(x, 0, 0x6040 | device);
+    private static void outputOfEightBits() {
+        Check.terms("DEVICES: 8 the reader, 9 the printer, 10 the clock, each with a WORD (8 bits of the reader's and"
+                + " printer's), BUSY and DONE; 63 the machine.");
+        NovaDesk x = new NovaDesk();
+        for (int v : new int[] {255, 256, 0, 1, 65535, 0xFF00, 0x80, 0x7F}) {
+            x.set(1, v);
+            Desk.step(x, 50, 0x6000 | 1 << 11 | 2 << 8 | 9);
+            Check.same("the printer's word by " + v, x.device(9, 0), v % 256);
+            Check.same("A stays", x.register(1), v);
+        }
+        for (int c : new int[] {255, 0, 128}) {
+            x.tape(c);
+            Desk.step(x, 50, 0x6048);
+            Desk.idle(x, 3);
+            Check.same("the reader's word by " + c, x.device(8, 0), c);
+        }
+    }
+
+    private static void controls() {
+        Check.terms("Otherwise, then, control: 1 START: BUSY, not DONE; 2 CLEAR: neither; 3 nothing.");
+        int[][] due = {{0, 0}, {1, 0}, {0, 0}, {0, 0}};
+        for (int d = 8; d <= 10; d++) {
+            for (int what = 0; what <= 6; what++) {
+                for (int control = 0; control <= 3; control++) {
+                    int instruction = 0x6000 | what << 8 | control << 6 | d;
+                    String when = "what " + what + " with control " + control;
+                    NovaDesk x = new NovaDesk();
+                    Desk.step(x, 50, instruction);
+                    is(x, when + " of one that is neither", d, due[control][0], due[control][1]);
+                    NovaDesk y = busy(d);
+                    Desk.step(y, 50, instruction);
+                    is(y, when + " of one that is BUSY", d, control == 2 ? 0 : 1, 0);
+                    NovaDesk z = done(d);
+                    Desk.step(z, 50, instruction);
+                    is(z, when + " of one that is DONE", d, control == 1 ? 1 : 0, control % 3 == 0 ? 1 : 0);
+                    Check.same(when + ": the PC", z.register(5), 51);
+                }
+            }
+        }
+    }
+
+    private static void whatBeforeControl() {
+        Check.terms("Otherwise, then, control: 1 START: BUSY, not DONE; 2 CLEAR: neither; 3 nothing.");
+        NovaDesk x = done(8);
+        x.tape(9);
+        Desk.step(x, 50, 0x6000 | 1 << 11 | 1 << 8 | 1 << 6 | 8);
+        Check.same("DIAS has the word of before", x.register(1), 200);
+        is(x, "DIAS", 8, 1, 0);
+        Check.same("the word stays by START", x.device(8, 0), 200);
+        Desk.step(x, 50, 0x6000 | 2 << 11 | 1 << 8 | 2 << 6 | 8);
+        Check.same("DIAC has it, too", x.register(2), 200);
+        is(x, "DIAC", 8, 0, 0);
+        Check.same("the word stays by CLEAR", x.device(8, 0), 200);
+        NovaDesk y = new NovaDesk();
+        y.set(0, 77);
+        Desk.step(y, 50, 0x6000 | 2 << 8 | 1 << 6 | 9);
+        Desk.idle(y, 3);
+        Check.same("DOAS prints the word that it brings", y.printed(0), 77);
+        Desk.step(y, 50, 0x6000 | 2 << 8 | 2 << 6 | 9);
+        Check.same("DOAC leaves the word", y.device(9, 0), 77);
+    }
+
+    private static void skips(String when, NovaDesk x, int device, int control, int due) {
+        Desk.step(x, 50, 0x6700 | control << 6 | device);
+        Check.same("skip by control " + control + " of " + device + " that is " + when, x.register(5) - 51, due);
+    }
+
+    private static void tests() {
+        Check.terms("7: the next one is skipped if, by control, it is BUSY, not BUSY, DONE, not DONE (a device that is none is"
+                + " neither).");
+        int[] neither = {0, 1, 0, 1};
+        int[] busy = {1, 0, 0, 1};
+        int[] done = {0, 1, 1, 0};
+        for (int d = 8; d <= 10; d++) {
+            for (int control = 0; control < 4; control++) {
+                skips("neither", new NovaDesk(), d, control, neither[control]);
+                skips("BUSY", busy(d), d, control, busy[control]);
+                skips("DONE", done(d), d, control, done[control]);
+            }
+        }
+    }
+
+    private static void testsDoNoControl() {
+        Check.terms("Otherwise, then, control: 1 START: BUSY, not DONE; 2 CLEAR: neither; 3 nothing.");
+        for (int d = 8; d <= 10; d++) {
+            for (int control = 0; control < 4; control++) {
+                NovaDesk x = new NovaDesk();
+                x.set(0, 99);
+                Desk.step(x, 50, 0x6700 | control << 6 | d);
+                is(x, "a test of one that is neither", d, 0, 0);
+                Check.same("a test leaves A", x.register(0), 99);
+                NovaDesk y = done(d);
+                Desk.step(y, 50, 0x6700 | control << 6 | d);
+                is(y, "a test of one that is DONE", d, 0, 1);
+                NovaDesk z = busy(d);
+                Desk.step(z, 50, 0x6700 | control << 6 | d);
+                is(z, "a test of one that is BUSY", d, 1, 0);
             }
         }
     }
 
     private static void noDevice() {
-        int[] others = {0, 7, 11, 62};
-        for (int device : others) {
+        Check.terms("7: the next one is skipped if, by control, it is BUSY, not BUSY, DONE, not DONE (a device that is none is"
+                + " neither).");
+        int[] neither = {0, 1, 0, 1};
+        for (int device = 0; device < 63; device += device == 7 ? 4 : 1) {
             NovaDesk x = new NovaDesk();
-            x.set(1, 99);
-            Desk.step(x, 50, 0x6000 | 1 << 11 | 2 << 8 | 1 << 6 | device);
-            Check.same("out to none", x.register(1), 99);
-            Check.same("goes on", x.register(5), 51);
-            int[] due = {0, 1, 0, 1};
             for (int control = 0; control < 4; control++) {
-                Desk.step(x, 50, 0x6700 | control << 6 | device);
-                Check.same("skip " + control + " of none", x.register(5) - 51, due[control]);
+                skips("none", x, device, control, neither[control]);
             }
-            for (int what = 1; what <= 5; what += 2) {
+            Desk.step(x, 50, 0x6040 | device);
+            for (int control = 0; control < 4; control++) {
+                skips("none, behind START", x, device, control, neither[control]);
+            }
+        }
+        Check.terms("What: 0 nothing; 1, 3, 5 A becomes: of the reader by 1 its word, otherwise 0;");
+        for (int device : new int[] {0, 7, 11, 62}) {
+            for (int what = 0; what <= 6; what++) {
+                NovaDesk x = done(8);
                 x.set(1, 99);
-                Desk.step(x, 50, 0x6000 | 1 << 11 | what << 8 | device);
-                Check.same("in from none", x.register(1), 0);
-            }
-            for (int d = 8; d <= 10; d++) {
-                is(x, "START of none", d, 0, 0);
+                Desk.step(x, 50, 0x6000 | 1 << 11 | what << 8 | 1 << 6 | device);
+                Check.same("what " + what + " of none: A", x.register(1), what % 2 == 1 ? 0 : 99);
+                Check.same("what " + what + " of none: the PC", x.register(5), 51);
+                Check.same("what " + what + " of none: the printer's word", x.device(9, 0), 0);
+                is(x, "START of none", 8, 0, 1);
+                is(x, "START of none", 9, 0, 0);
+                is(x, "START of none", 10, 0, 0);
+                Check.same("START of none is none of the machine", x.register(7), 0);
             }
         }
     }
 
-    private static void machineTransfers() {
-        NovaDesk x = Desk.with("READS 2", "NIOS TTO", "NIOS TTI", "NIOS RTC", "JMP .");
-        x.set(6, 54321);
-        x.tape(5);
-        x.run(1);
-        Check.same("READS", x.register(2), 54321);
-        Desk.step(x, 50, 0x633F);
-        Check.same("INTA for none", x.register(0), 0);
-        x.set(5, 1);
-        x.run(4);
-        Desk.step(x, 50, 0x633F);
-        Check.same("INTA of the printer", x.register(0), 9);
-        x.set(5, 4);
-        x.run(3);
-        Desk.step(x, 50, 0x633F);
-        Check.same("INTA of the least", x.register(0), 8);
-        x.set(1, 4);
-        Desk.step(x, 50, 0x643F | 1 << 11);
-        Check.same("MSKO", x.register(8), 4);
-        x.set(3, 1234);
-        Desk.step(x, 50, 0x653F | 3 << 11);
-        Check.same("IORST leaves A", x.register(3), 1234);
-        Check.same("IORST's mask", x.register(8), 0);
+    private static void switches() {
+        Check.terms("Of 63: 1 A becomes the switches");
+        NovaDesk x = new NovaDesk();
+        for (int v : new int[] {65535, 0, 32768}) {
+            x.set(6, v);
+            for (int a = 0; a <= 3; a++) {
+                x.set(a, 5);
+                Desk.step(x, 50, 0x613F | a << 11);
+                Check.same("switches " + v + " to " + a, x.register(a), v);
+            }
+        }
+    }
+
+    private static void whoAsks() {
+        Check.terms("3 the number of the device that asks for an interrupt, the least one, 0 for none;");
         for (int d = 8; d <= 10; d++) {
-            is(x, "IORST", d, 0, 0);
+            NovaDesk x = new NovaDesk();
+            x.tape(1);
+            x.set(1, 99);
+            Desk.step(x, 50, 0x633F | 1 << 11);
+            Check.same("none asks", x.register(1), 0);
+            Desk.step(x, 50, 0x6040 | d);
+            x.set(1, 99);
+            Desk.step(x, 50, 0x633F | 1 << 11);
+            Check.same("one that is BUSY does not ask", x.register(1), 0);
+            Desk.idle(x, 20);
+            Desk.step(x, 50, 0x633F | 1 << 11);
+            Check.same("it asks", x.register(1), d);
+            is(x, "asking who leaves it so", d, 0, 1);
         }
-        Check.same("IORST leaves the words", x.device(8, 0), 5);
-        for (int what = 0; what <= 4; what += 2) {
-            x.set(3, 1234);
-            Desk.step(x, 50, 0x603F | 3 << 11 | what << 8);
-            Check.same("A stays by " + what, x.register(3), 1234);
-        }
+        // The printer's fourth tick goes by behind the instruction that asks who asks.
+        NovaDesk x = Desk.at(100, 0x6049, Desk.NEXT, Desk.NEXT, 0x633F);
+        x.set(0, 99);
+        x.run(4);
+        Check.same("ticks go by behind it", x.register(0), 0);
+        is(x, "behind it", 9, 0, 1);
     }
 
     private static void mask() {
+        Check.terms("4 A is the MASK (bit 0 the printer, 1 the reader, 2 the clock)");
         NovaDesk x = new NovaDesk();
         x.tape(1);
-        Desk.step(x, 0, 0x604A);
+        Desk.step(x, 100, 0x604A);
         Desk.idle(x, 20);
-        Desk.step(x, 0, 0x6048);
-        Desk.step(x, 0, 0x6049);
+        Desk.step(x, 100, 0x6048);
+        Desk.step(x, 100, 0x6049);
         Desk.idle(x, 4);
         int[] due = {8, 8, 9, 10, 8, 8, 9, 0};
         for (int m = 0; m < 8; m++) {
-            x.set(0, 0xFFF8 | m);
+            for (int above : new int[] {0, 0xFFF8}) {
+                x.set(3, above | m);
+                Desk.step(x, 50, 0x643F | 3 << 11);
+                Check.same("mask " + m, x.register(8), m);
+                Check.same("A stays", x.register(3), above | m);
+                Desk.step(x, 50, 0x633F | 1 << 11);
+                Check.same("who asks by mask " + m, x.register(1), due[m]);
+            }
+        }
+        Check.terms("A device ASKS if it is DONE and its mask bit is 0.");
+        Desk.step(x, 100, 0x6088);
+        int[] dueThen = {9, 10, 9, 10, 9, 0, 9, 0};
+        for (int m = 0; m < 8; m++) {
+            x.set(0, m);
             Desk.step(x, 50, 0x643F);
-            Check.same("mask " + m, x.register(8), m);
             Desk.step(x, 50, 0x633F | 1 << 11);
-            Check.same("who asks by mask " + m, x.register(1), due[m]);
+            Check.same("who asks by mask " + m + " when the reader is not DONE", x.register(1), dueThen[m]);
+        }
+    }
+
+    private static void ioReset() {
+        Check.terms("5 all devices are neither BUSY nor DONE, the mask is 0 (A stays as it is, as by 0, 2, 4, 6);");
+        NovaDesk x = done(8);
+        x.set(0, 7);
+        Desk.step(x, 50, 0x643F);
+        Desk.step(x, 50, 0x6000 | 2 << 8 | 1 << 6 | 9);
+        Desk.step(x, 50, 0x604A);
+        Desk.step(x, 50, 0x607F);
+        is(x, "before", 8, 0, 1);
+        is(x, "before", 9, 1, 0);
+        is(x, "before", 10, 1, 0);
+        x.set(3, 1234);
+        Desk.step(x, 50, 0x653F | 3 << 11);
+        for (int d = 8; d <= 10; d++) {
+            is(x, "IORST", d, 0, 0);
+        }
+        Check.same("the mask", x.register(8), 0);
+        Check.same("A", x.register(3), 1234);
+        Check.same("ION stays", x.register(7), 1);
+        Check.same("the reader's word stays", x.device(8, 0), 200);
+        Check.same("the printer's word stays", x.device(9, 0), 7);
+        Desk.idle(x, 30);
+        for (int d = 8; d <= 10; d++) {
+            is(x, "nothing goes on behind IORST", d, 0, 0);
+        }
+        Check.same("nothing was printed", x.tear(), 0);
+    }
+
+    private static void accumulatorsOfMachine() {
+        Check.terms("5 all devices are neither BUSY nor DONE, the mask is 0 (A stays as it is, as by 0, 2, 4, 6);");
+        for (int what = 0; what <= 6; what++) {
+            for (int a = 0; a <= 3; a++) {
+                NovaDesk x = new NovaDesk();
+                x.set(6, 4444);
+                for (int r = 0; r <= 3; r++) {
+                    x.set(r, 1230 + r);
+                }
+                Desk.step(x, 50, 0x603F | a << 11 | what << 8);
+                int due = what == 1 ? 4444 : what == 3 ? 0 : 1230 + a;
+                for (int r = 0; r <= 3; r++) {
+                    Check.same("what " + what + " of 63: " + r, x.register(r), r == a ? due : 1230 + r);
+                }
+                Check.same("what " + what + " of 63: the PC", x.register(5), 51);
+                Check.same("what " + what + " of 63: it halts", x.why(), what == 6 ? 1 : 0);
+            }
         }
     }
 
     private static void machineTests() {
-        NovaDesk x = new NovaDesk();
-        skips(x, 63, 0, 1, 0, 1);
-        Check.same("a test does not let in", x.register(7), 0);
-        Desk.step(x, 50, 0x607F);
-        Check.same("INTEN", x.register(7), 1);
-        skips(x, 63, 1, 0, 0, 1);
-        Check.same("a test does not shut out", x.register(7), 1);
-        Desk.step(x, 50, 0x60BF);
-        Check.same("INTDS", x.register(7), 0);
-        Desk.step(x, 50, 0x61FF);
-        Check.same("control 3", x.register(7), 0);
-        for (int what = 1; what <= 6; what++) {
-            Desk.step(x, 50, 0x607F | what << 8);
-            Check.same("control 1 of " + what, x.register(7), 1);
-            Check.same("goes on behind " + what, x.register(5), 51);
-            Desk.step(x, 50, 0x60BF | what << 8);
-            Check.same("control 2 of " + what, x.register(7), 0);
+        Check.terms("7: if, by control, ION, not ION, never, always.");
+        int[] dueOff = {0, 1, 0, 1};
+        int[] dueOn = {1, 0, 0, 1};
+        for (int a = 0; a <= 3; a++) {
+            NovaDesk x = new NovaDesk();
+            for (int control = 0; control < 4; control++) {
+                skips("not ION", x, 63 | a << 11, control, dueOff[control]);
+                Check.same("a test leaves ION", x.register(7), 0);
+            }
+            Desk.step(x, 50, 0x607F);
+            for (int control = 0; control < 4; control++) {
+                skips("ION", x, 63 | a << 11, control, dueOn[control]);
+                Check.same("a test leaves ION", x.register(7), 1);
+            }
         }
     }
 
-    private static void interrupts() {
-        NovaDesk x = Desk.with(".LOC 1", "HAND", ".LOC 100", "INTEN", "NIOS TTO", "JMP .", ".LOC 200",
-                "HAND: INTA 1", "NIOC TTO", "INTEN", "JMP @0");
-        x.set(5, 64);
-        Check.same("done", x.run(5), 5);
-        Check.same("none yet", x.register(10), 0);
-        is(x, "before", 9, 0, 1);
-        Check.same("one more", x.run(1), 1);
-        Check.same("one interrupt", x.register(10), 1);
-        Check.same("instructions alone are counted", x.register(9), 6);
-        Check.same("word 0", x.word(0), 66);
-        Check.same("not ION", x.register(7), 0);
-        Check.same("who", x.register(1), 9);
-        Check.same("where", x.register(5), 129);
-        x.run(3);
-        Check.same("back", x.register(5), 66);
-        Check.same("ION again", x.register(7), 1);
-        x.run(20);
-        Check.same("no further one", x.register(10), 1);
-
-        x.put(1, 32768 | 20);
-        x.put(20, 32768 | 25);
-        x.put(26, 500);
-        x.put(66, 0x6049);
-        x.set(5, 66);
-        x.put(67, 0x0100);
-        x.run(5);
-        Check.same("by a row that counts", x.register(10), 2);
-        Check.same("up", x.word(20), 32768 | 26);
-        Check.same("down", x.word(26), 499);
-        Check.same("goes on there: a JMP 0", x.register(5), 0);
-    }
-
-    private static void interruptWaits() {
-        NovaDesk x = Desk.with(".LOC 1", "300", ".LOC 100", "NIOS TTO", "JMP .+1", "JMP .+1", "JMP .+1",
-                "INTEN", "INTEN", "DIBS 0,CPU", "MOV 0,0", "MOV 0,0");
-        x.set(5, 64);
-        x.run(7);
-        Check.same("each lets the next one be done", x.register(10), 0);
-        x.run(1);
-        Check.same("one more is done", x.register(10), 0);
-        Check.same("the PC", x.register(5), 72);
-        x.run(1);
-        Check.same("now", x.register(10), 1);
-        Check.same("word 0", x.word(0), 72);
-
-        NovaDesk y = Desk.with(".LOC 1", "300", ".LOC 100", "NIOS TTO", "JMP .+1", "JMP .+1", "JMP .+1",
-                "DOCS 0,CPU", "SKPBZ CPU", "MOV 0,0");
-        y.set(5, 64);
-        Check.same("halts", y.run(10), 5);
-        Check.same("ION", y.register(7), 1);
-        y.set(5, 69);
-        y.run(1);
-        Check.same("the one before was of another run", y.register(10), 0);
-        y.run(1);
-        Check.same("a test of 63 does not hold it back", y.register(10), 1);
-
-        NovaDesk z = Desk.with(".LOC 1", "300", ".LOC 100", "NIOS TTO", "JMP .+1", "JMP .+1", "JMP .+1",
-                "INTEN", "JMP @50", ".LOC 50", "100050");
-        z.set(5, 64);
-        Check.same("lost behind INTEN", z.run(10), 5);
-        Check.same("why", z.why(), 2);
-        z.put(40, 320);
-        Check.same("mended", z.run(1), 1);
-        Check.same("INTEN is still the one before", z.register(10), 0);
-        Check.same("the PC", z.register(5), 320);
-        z.run(1);
-        Check.same("then it comes", z.register(10), 1);
-
-        NovaDesk m = Desk.with(".LOC 1", "300", ".LOC 100", "MSKO 0", "INTEN", "NIOS TTO", "JMP .", ".LOC 200",
-                "IORST");
-        m.set(0, 1);
-        m.set(5, 64);
-        m.run(50);
-        Check.same("a masked one does not come", m.register(10), 0);
-        Check.same("DONE all the same", m.device(9, 2), 1);
-    }
-
-    private static void lostInterrupt() {
-        NovaDesk x = Desk.with(".LOC 1", "100025", ".LOC 21", "0", ".LOC 25", "100025", ".LOC 100", "NIOS TTO",
-                "INTEN", "JMP .");
-        x.put(21, 32768 | 300);
-        x.put(301, 32768 | 301);
-        x.set(5, 64);
-        Check.same("done", x.run(100), 4);
-        Check.same("why", x.why(), 2);
-        Check.same("the PC stays", x.register(5), 66);
-        Check.same("word 0", x.word(0), 66);
-        Check.same("not ION", x.register(7), 0);
-        Check.same("lost ones are counted", x.register(10), 1);
-        Check.same("what was counted stays", x.word(21), 32768 | 301);
-        Check.same("then it goes on", x.run(3), 3);
-        Check.same("at the PC", x.register(5), 66);
+    private static void machineControls() {
+        Check.terms("Otherwise control 1: ION, 2: not ION.");
+        for (int what = 0; what <= 6; what++) {
+            int[] dueOff = {0, 1, 0, 0};
+            int[] dueOn = {1, 1, 0, 1};
+            for (int control = 0; control < 4; control++) {
+                NovaDesk x = new NovaDesk();
+                Desk.step(x, 50, 0x603F | what << 8 | control << 6);
+                Check.same("what " + what + " control " + control, x.register(7), dueOff[control]);
+                Check.same("the PC", x.register(5), 51);
+                NovaDesk y = new NovaDesk();
+                Desk.step(y, 50, 0x607F);
+                Desk.step(y, 50, 0x603F | what << 8 | control << 6);
+                Check.same("what " + what + " control " + control + " with ION", y.register(7), dueOn[control]);
+            }
+        }
     }
 }

@@ -31,6 +31,8 @@ final class FaceTest {
 
     public static void main(String[] args) {
         Class<?> face = NovaDesk.class;
+        Check.about("LANGUAGE.md, rule 1", "The face: the class of the document, public and final, with the public constructor,"
+                + " methods and constants of the document and no other public, protected or package-visible member");
         Check.same("the class", Modifier.toString(face.getModifiers()), "public final");
         methods(face);
         for (Field f : face.getDeclaredFields()) {
