@@ -3,6 +3,7 @@ final class ConsoleTest {
     public static void main(String[] args) {
         newObject();
         newMemory();
+        lastCall();
         put();
         word();
         set();
@@ -64,6 +65,21 @@ final class ConsoleTest {
             }
             Check.same("words that are not 0 from " + start + " on", sum, 0);
         }
+    }
+
+    private static void lastCall() {
+        Check.about("What it is", "An object is used for at most 512 calls after it has been made");
+        NovaDesk x = new NovaDesk();
+        for (int i = 1; i <= 510; i++) {
+            x.put(i, i);
+        }
+        Check.same("the 511th call", x.run(5000), 5000);
+        Check.same("the 512th call", x.word(510), 510);
+        NovaDesk y = new NovaDesk();
+        for (int i = 1; i <= 511; i++) {
+            y.run(5000);
+        }
+        Check.same("the most instructions that can be done in all", y.register(9), 511 * 5000);
     }
 
     private static void put() {

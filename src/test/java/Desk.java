@@ -83,4 +83,9 @@ final class Desk {
         x.set(5, address);
         return x.run(1);
     }
+
+    static void deviceIs(NovaDesk x, String when, int device, int busy, int done) {
+        Check.same(when + ": BUSY of " + device, x.device(device, 1), busy);
+        Check.same(when + ": DONE of " + device, x.device(device, 2), done);
+    }
 }

@@ -2,6 +2,7 @@
 final class DeviceTest {
     public static void main(String[] args) {
         newDevices();
+        fields();
         inputs();
         outputs();
         outputOfEightBits();
@@ -18,11 +19,6 @@ final class DeviceTest {
         machineTests();
         machineControls();
         Check.finish();
-    }
-
-    private static void is(NovaDesk x, String when, int device, int busy, int done) {
-        Check.same(when + ": BUSY of " + device, x.device(device, 1), busy);
-        Check.same(when + ": DONE of " + device, x.device(device, 2), done);
     }
 
     /** An object whose device is DONE (the reader by a character 200). */
@@ -45,18 +41,18 @@ final class DeviceTest {
         for (int d = 8; d <= 10; d++) {
             NovaDesk x = busy(d);
             Check.same("word of " + d, x.device(d, 0), 0);
-            is(x, "started", d, 1, 0);
+            Desk.deviceIs(x, "started", d, 1, 0);
             for (int other = 8; other <= 10; other++) {
                 if (other != d) {
-                    is(x, "when " + d + " is BUSY", other, 0, 0);
+                    Desk.deviceIs(x, "when " + d + " is BUSY", other, 0, 0);
                 }
             }
             NovaDesk y = done(d);
-            is(y, "done", d, 0, 1);
+            Desk.deviceIs(y, "done", d, 0, 1);
             Check.same("word of " + d + " that is DONE", y.device(d, 0), d == 8 ? 200 : 0);
             for (int other = 8; other <= 10; other++) {
                 if (other != d) {
-                    is(y, "when " + d + " is DONE", other, 0, 0);
+                    Desk.deviceIs(y, "when " + d + " is DONE", other, 0, 0);
                 }
             }
         }
@@ -65,6 +61,25 @@ final class DeviceTest {
         for (int what = 0; what <= 6; what++) {
             Desk.step(x, 100, 0x6000 | what << 8 | 10);
             Check.same("0 of the clock behind what " + what, x.device(10, 0), 0);
+        }
+    }
+
+    private static void fields() {
+        Check.terms("Instructions of them: A (bits 12, 11), WHAT (10 .. 8), CONTROL (7, 6), DEVICE (5 .. 0).");
+        for (int device = 0; device < 63; device++) {
+            NovaDesk x = new NovaDesk();
+            x.set(3, 255);
+            Desk.step(x, 50, 0x6000 | 3 << 11 | 2 << 8 | 1 << 6 | device);
+            for (int d = 8; d <= 10; d++) {
+                Desk.deviceIs(x, "DOAS of " + device, d, d == device ? 1 : 0, 0);
+            }
+            Check.same("the printer's word by DOAS of " + device, x.device(9, 0), device == 9 ? 255 : 0);
+        }
+        for (int a = 0; a <= 3; a++) {
+            NovaDesk x = new NovaDesk();
+            x.set(a, 70 + a);
+            Desk.step(x, 50, 0x6000 | a << 11 | 2 << 8 | 9);
+            Check.same("DOA of accumulator " + a, x.device(9, 0), 70 + a);
         }
     }
 
@@ -84,7 +99,7 @@ final class DeviceTest {
                         Check.same(when + ": " + r, x.register(r), r == a && what % 2 == 1 ? in : 0x1FE);
                     }
                     Check.same(when + ": the reader's word stays", x.device(8, 0), 200);
-                    is(x, when + ": without control", 8, 0, 1);
+                    Desk.deviceIs(x, when + ": without control", 8, 0, 1);
                     Check.same(when + ": the PC", x.register(5), 51);
                 }
             }
@@ -134,13 +149,13 @@ final class DeviceTest {
                     String when = "what " + what + " with control " + control;
                     NovaDesk x = new NovaDesk();
                     Desk.step(x, 50, instruction);
-                    is(x, when + " of one that is neither", d, due[control][0], due[control][1]);
+                    Desk.deviceIs(x, when + " of one that is neither", d, due[control][0], due[control][1]);
                     NovaDesk y = busy(d);
                     Desk.step(y, 50, instruction);
-                    is(y, when + " of one that is BUSY", d, control == 2 ? 0 : 1, 0);
+                    Desk.deviceIs(y, when + " of one that is BUSY", d, control == 2 ? 0 : 1, 0);
                     NovaDesk z = done(d);
                     Desk.step(z, 50, instruction);
-                    is(z, when + " of one that is DONE", d, control == 1 ? 1 : 0, control % 3 == 0 ? 1 : 0);
+                    Desk.deviceIs(z, when + " of one that is DONE", d, control == 1 ? 1 : 0, control % 3 == 0 ? 1 : 0);
                     Check.same(when + ": the PC", z.register(5), 51);
                 }
             }
@@ -153,11 +168,11 @@ final class DeviceTest {
         x.tape(9);
         Desk.step(x, 50, 0x6000 | 1 << 11 | 1 << 8 | 1 << 6 | 8);
         Check.same("DIAS has the word of before", x.register(1), 200);
-        is(x, "DIAS", 8, 1, 0);
+        Desk.deviceIs(x, "DIAS", 8, 1, 0);
         Check.same("the word stays by START", x.device(8, 0), 200);
         Desk.step(x, 50, 0x6000 | 2 << 11 | 1 << 8 | 2 << 6 | 8);
         Check.same("DIAC has it, too", x.register(2), 200);
-        is(x, "DIAC", 8, 0, 0);
+        Desk.deviceIs(x, "DIAC", 8, 0, 0);
         Check.same("the word stays by CLEAR", x.device(8, 0), 200);
         NovaDesk y = new NovaDesk();
         y.set(0, 77);
@@ -195,14 +210,14 @@ final class DeviceTest {
                 NovaDesk x = new NovaDesk();
                 x.set(0, 99);
                 Desk.step(x, 50, 0x6700 | control << 6 | d);
-                is(x, "a test of one that is neither", d, 0, 0);
+                Desk.deviceIs(x, "a test of one that is neither", d, 0, 0);
                 Check.same("a test leaves A", x.register(0), 99);
                 NovaDesk y = done(d);
                 Desk.step(y, 50, 0x6700 | control << 6 | d);
-                is(y, "a test of one that is DONE", d, 0, 1);
+                Desk.deviceIs(y, "a test of one that is DONE", d, 0, 1);
                 NovaDesk z = busy(d);
                 Desk.step(z, 50, 0x6700 | control << 6 | d);
-                is(z, "a test of one that is BUSY", d, 1, 0);
+                Desk.deviceIs(z, "a test of one that is BUSY", d, 1, 0);
             }
         }
     }
@@ -230,9 +245,9 @@ final class DeviceTest {
                 Check.same("what " + what + " of none: A", x.register(1), what % 2 == 1 ? 0 : 99);
                 Check.same("what " + what + " of none: the PC", x.register(5), 51);
                 Check.same("what " + what + " of none: the printer's word", x.device(9, 0), 0);
-                is(x, "START of none", 8, 0, 1);
-                is(x, "START of none", 9, 0, 0);
-                is(x, "START of none", 10, 0, 0);
+                Desk.deviceIs(x, "START of none", 8, 0, 1);
+                Desk.deviceIs(x, "START of none", 9, 0, 0);
+                Desk.deviceIs(x, "START of none", 10, 0, 0);
                 Check.same("START of none is none of the machine", x.register(7), 0);
             }
         }
@@ -266,14 +281,14 @@ final class DeviceTest {
             Desk.idle(x, 20);
             Desk.step(x, 50, 0x633F | 1 << 11);
             Check.same("it asks", x.register(1), d);
-            is(x, "asking who leaves it so", d, 0, 1);
+            Desk.deviceIs(x, "asking who leaves it so", d, 0, 1);
         }
         // The printer's fourth tick goes by behind the instruction that asks who asks.
         NovaDesk x = Desk.at(100, 0x6049, Desk.NEXT, Desk.NEXT, 0x633F);
         x.set(0, 99);
         x.run(4);
         Check.same("ticks go by behind it", x.register(0), 0);
-        is(x, "behind it", 9, 0, 1);
+        Desk.deviceIs(x, "behind it", 9, 0, 1);
     }
 
     private static void mask() {
@@ -315,13 +330,13 @@ final class DeviceTest {
         Desk.step(x, 50, 0x6000 | 2 << 8 | 1 << 6 | 9);
         Desk.step(x, 50, 0x604A);
         Desk.step(x, 50, 0x607F);
-        is(x, "before", 8, 0, 1);
-        is(x, "before", 9, 1, 0);
-        is(x, "before", 10, 1, 0);
+        Desk.deviceIs(x, "before", 8, 0, 1);
+        Desk.deviceIs(x, "before", 9, 1, 0);
+        Desk.deviceIs(x, "before", 10, 1, 0);
         x.set(3, 1234);
         Desk.step(x, 50, 0x653F | 3 << 11);
         for (int d = 8; d <= 10; d++) {
-            is(x, "IORST", d, 0, 0);
+            Desk.deviceIs(x, "IORST", d, 0, 0);
         }
         Check.same("the mask", x.register(8), 0);
         Check.same("A", x.register(3), 1234);
@@ -330,7 +345,7 @@ final class DeviceTest {
         Check.same("the printer's word stays", x.device(9, 0), 7);
         Desk.idle(x, 30);
         for (int d = 8; d <= 10; d++) {
-            is(x, "nothing goes on behind IORST", d, 0, 0);
+            Desk.deviceIs(x, "nothing goes on behind IORST", d, 0, 0);
         }
         Check.same("nothing was printed", x.tear(), 0);
     }

@@ -22,6 +22,7 @@ final class FaultTest {
         memoryLastOfFirst();
         asTheyCome();
         boundsThenAddresses();
+        twice();
         firstFaultCounts();
         nothingIsPut();
         faultAnswers();
@@ -274,6 +275,14 @@ final class FaultTest {
         Assembling.fails("JMP 1000\nMOV 4,4", 6, 1);
         Assembling.fails("MOV 4,4\nJMP 1000", 5, 1);
         Assembling.fails("JMP 1000\nJMP X", 6, 1);
+    }
+
+    private static void twice() {
+        Check.promise(15, "The text is gone through twice.");
+        Assembling.makes("JMP X\nX: JMP X\nLDA 0,Y,Y-2\nY:", 1, 1, 0x2000 | 1 << 8 | 3);
+        Assembling.fails("JMP X,4\nJMP: 5", 4, 2);
+        Assembling.fails("5 5\nX", 2, 1);
+        Assembling.fails("JMP 1000\n5 5\nX\n\n\n.LOC 100000", 5, 6);
     }
 
     private static void firstFaultCounts() {

@@ -51,6 +51,10 @@ final class RefusalTest {
     }
 
     private static void console() {
+        Check.terms("IllegalArgumentException: a number is not as it may be.");
+        refused("put(-1, -1)", x -> x.put(-1, -1));
+        refused("set(7, 65536)", x -> x.set(7, 65536));
+        refused("device(11, 3)", x -> x.device(11, 3));
         Check.promise(2, "IllegalArgumentException: address is not 0 .. 32767, v not 0 .. 65535.");
         for (int address : new int[] {-1, 32768, 65535, 65536, MIN, MAX}) {
             refused("put(" + address + ", 7)", x -> x.put(address, 7));

@@ -39,6 +39,7 @@ final class RunTest {
         Check.same("what was done", x.register(0), 1);
         Check.same("to the second", x.run(5000), 3);
         Check.same("the PC is behind it, too", x.register(5), 105);
+        Check.terms("6 the machine HALTS.");
         for (int instruction : new int[] {HALT | 3 << 11, HALT | 1 << 6, HALT | 2 << 6, HALT | 3 << 6}) {
             NovaDesk y = Desk.at(100, instruction, 0x8300);
             Check.same("by any accumulator and control", y.run(2), 1);

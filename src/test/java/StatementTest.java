@@ -216,6 +216,7 @@ final class StatementTest {
             NovaDesk x = new NovaDesk();
             Assembling.makesIn(x, text, text.charAt(0) == '.' ? 0 : 1);
         }
+        Check.promise(15, "5 beyond a bound.");
         String[] beyond = {"LDA 4,5", "STA 4,5", "LDA 0,5,4", "STA 0,5,4", "JMP 5,4", "JSR 5,4", "ISZ 5,4", "DSZ 5,4", "MOV 4,0",
             "MOV 0,4", "MOV 0,0,10", "COM 0,4", "NIO 100", "NIOS 100", "DIA 4,77", "DIA 3,100", "DOA 4,77", "DOA 3,100",
             "DIB 4,77", "DOB 3,100", "DIC 4,77", "DOC 3,100", "SKPBN 100", "SKPBZ 100", "SKPDN 100", "SKPDZ 100", "READS 4",

@@ -25,11 +25,6 @@ final class TickTest {
         Check.finish();
     }
 
-    private static void is(NovaDesk x, String when, int device, int busy, int done) {
-        Check.same(when + ": BUSY of " + device, x.device(device, 1), busy);
-        Check.same(when + ": DONE of " + device, x.device(device, 2), done);
-    }
-
     /** An object that has a character on its tape and has done the START of a device. */
     private static NovaDesk started(int device) {
         NovaDesk x = new NovaDesk();
@@ -43,13 +38,13 @@ final class TickTest {
         for (int d = READER; d <= CLOCK; d++) {
             Check.terms("of each device that is BUSY a tick goes by (of one that the instruction STARTs, too: its first;");
             NovaDesk x = started(d);
-            is(x, "the first tick", d, 1, 0);
+            Desk.deviceIs(x, "the first tick", d, 1, 0);
             Check.terms(d == READER ? "the reader's fourth one since START" : "the printer's fourth one prints its word, the"
                     + " clock's twentieth: likewise.");
             int last = needed[d - READER];
             for (int tick = 2; tick <= last; tick++) {
                 Desk.idle(x, 1);
-                is(x, "tick " + tick, d, tick == last ? 0 : 1, tick == last ? 1 : 0);
+                Desk.deviceIs(x, "tick " + tick, d, tick == last ? 0 : 1, tick == last ? 1 : 0);
             }
             Check.same("printed", x.tear(), d == PRINTER ? 1 : 0);
             Check.same("left on the tape, with one more", x.tape(1), d == READER ? 1 : 2);
@@ -66,9 +61,9 @@ final class TickTest {
             for (int i = 0; i < 2; i++) {
                 Desk.step(x, 300, instruction);
             }
-            is(x, "three ticks, by " + Integer.toHexString(instruction), PRINTER, 1, 0);
+            Desk.deviceIs(x, "three ticks, by " + Integer.toHexString(instruction), PRINTER, 1, 0);
             Desk.step(x, 300, instruction);
-            is(x, "four ticks, by " + Integer.toHexString(instruction), PRINTER, 0, 1);
+            Desk.deviceIs(x, "four ticks, by " + Integer.toHexString(instruction), PRINTER, 0, 1);
         }
     }
 
@@ -79,18 +74,18 @@ final class TickTest {
         for (int i = 0; i < 10; i++) {
             Check.same("a lost one", Desk.step(x, 300, 0x0405), 0);
         }
-        is(x, "a lost one is not done: no tick", PRINTER, 1, 0);
+        Desk.deviceIs(x, "a lost one is not done: no tick", PRINTER, 1, 0);
         Desk.idle(x, 2);
-        is(x, "three ticks", PRINTER, 1, 0);
+        Desk.deviceIs(x, "three ticks", PRINTER, 1, 0);
         Desk.idle(x, 1);
-        is(x, "four ticks", PRINTER, 0, 1);
+        Desk.deviceIs(x, "four ticks", PRINTER, 0, 1);
         NovaDesk y = started(PRINTER);
         y.put(1, 1);
         y.tape(7);
         y.set(0, 9);
         y.tell(0);
         y.assemble();
-        is(y, "calls are no ticks", PRINTER, 1, 0);
+        Desk.deviceIs(y, "calls are no ticks", PRINTER, 1, 0);
     }
 
     private static void startCountsAnew() {
@@ -105,9 +100,9 @@ final class TickTest {
                 }
                 Desk.step(x, 100, START | d);
                 Desk.idle(x, last - 2);
-                is(x, "anew behind " + before + ", one too few", d, 1, 0);
+                Desk.deviceIs(x, "anew behind " + before + ", one too few", d, 1, 0);
                 x.run(1);
-                is(x, "anew behind " + before, d, 0, 1);
+                Desk.deviceIs(x, "anew behind " + before, d, 0, 1);
             }
         }
     }
@@ -120,18 +115,18 @@ final class TickTest {
             NovaDesk x = started(d);
             x.tape(1);
             Desk.idle(x, 30);
-            is(x, "DONE", d, 0, 1);
+            Desk.deviceIs(x, "DONE", d, 0, 1);
             Desk.step(x, 100, START | d);
-            is(x, "START again", d, 1, 0);
+            Desk.deviceIs(x, "START again", d, 1, 0);
             Desk.idle(x, last - 2);
-            is(x, "one too few", d, 1, 0);
+            Desk.deviceIs(x, "one too few", d, 1, 0);
             x.run(1);
-            is(x, "again", d, 0, 1);
+            Desk.deviceIs(x, "again", d, 0, 1);
             Desk.step(x, 100, START | d);
             Desk.idle(x, 2);
             Desk.step(x, 100, CLEAR | d);
             Desk.idle(x, 30);
-            is(x, "CLEAR ends it", d, 0, 0);
+            Desk.deviceIs(x, "CLEAR ends it", d, 0, 0);
         }
     }
 
@@ -143,7 +138,7 @@ final class TickTest {
                 NovaDesk x = started(d);
                 Desk.idle(x, needed[d - READER] - 2);
                 Desk.step(x, 300, instruction);
-                is(x, "what would be the last one, by " + instruction, d, instruction == (START | d) ? 1 : 0, 0);
+                Desk.deviceIs(x, "what would be the last one, by " + instruction, d, instruction == (START | d) ? 1 : 0, 0);
                 Check.same("nothing was printed", x.tear(), 0);
                 Check.same("nothing was read", x.tape(1), 2);
             }
@@ -157,12 +152,12 @@ final class TickTest {
             NovaDesk x = new NovaDesk();
             Desk.step(x, 100, START | READER);
             Desk.idle(x, without - 1);
-            is(x, without + " ticks without a tape", READER, 1, 0);
+            Desk.deviceIs(x, without + " ticks without a tape", READER, 1, 0);
             x.tape(255);
             x.tape(7);
-            is(x, "a tape alone is no tick", READER, 1, 0);
+            Desk.deviceIs(x, "a tape alone is no tick", READER, 1, 0);
             Desk.idle(x, 1);
-            is(x, "the next tick", READER, 0, 1);
+            Desk.deviceIs(x, "the next tick", READER, 0, 1);
             Check.same("its word", x.device(READER, 0), 255);
             Check.same("one is left, and one more", x.tape(8), 2);
         }
@@ -176,10 +171,10 @@ final class TickTest {
         NovaDesk y = new NovaDesk();
         Desk.step(y, 100, START | READER);
         Desk.idle(y, 5000);
-        is(y, "it waits on", READER, 1, 0);
+        Desk.deviceIs(y, "it waits on", READER, 1, 0);
         y.tape(0);
         Desk.idle(y, 1);
-        is(y, "a character 0 is one, too", READER, 0, 1);
+        Desk.deviceIs(y, "a character 0 is one, too", READER, 0, 1);
         Check.same("its word", y.device(READER, 0), 0);
     }
 
@@ -194,7 +189,7 @@ final class TickTest {
             Check.same("character " + i, x.device(READER, 0), 255 - i);
         }
         x.run(4);
-        is(x, "behind the last", READER, 1, 0);
+        Desk.deviceIs(x, "behind the last", READER, 1, 0);
         Check.same("the word stays until the next", x.device(READER, 0), 156);
     }
 
@@ -225,7 +220,7 @@ final class TickTest {
         Desk.step(x, 100, START | CLOCK);
         Desk.idle(x, 5000);
         for (int d = READER; d <= CLOCK; d++) {
-            is(x, "no ticks of one that is not BUSY", d, 0, 1);
+            Desk.deviceIs(x, "no ticks of one that is not BUSY", d, 0, 1);
         }
         Check.same("one was printed", x.tear(), 1);
         Check.same("one was read", x.tape(1), 1);
@@ -240,14 +235,14 @@ final class TickTest {
         Desk.step(x, 100, START | PRINTER);
         for (int i = 1; i < 4; i++) {
             Desk.idle(x, 1);
-            is(x, "the reader, " + (2 + i), READER, i >= 2 ? 0 : 1, i >= 2 ? 1 : 0);
-            is(x, "the printer, " + (1 + i), PRINTER, i >= 3 ? 0 : 1, i >= 3 ? 1 : 0);
-            is(x, "the clock, " + (3 + i), CLOCK, 1, 0);
+            Desk.deviceIs(x, "the reader, " + (2 + i), READER, i >= 2 ? 0 : 1, i >= 2 ? 1 : 0);
+            Desk.deviceIs(x, "the printer, " + (1 + i), PRINTER, i >= 3 ? 0 : 1, i >= 3 ? 1 : 0);
+            Desk.deviceIs(x, "the clock, " + (3 + i), CLOCK, 1, 0);
         }
         Desk.idle(x, 13);
-        is(x, "19", CLOCK, 1, 0);
+        Desk.deviceIs(x, "19", CLOCK, 1, 0);
         Desk.idle(x, 1);
-        is(x, "20", CLOCK, 0, 1);
+        Desk.deviceIs(x, "20", CLOCK, 0, 1);
     }
 
     private static void tapeCounts() {
